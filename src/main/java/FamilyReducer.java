@@ -1126,12 +1126,13 @@ public final class FamilyReducer {
             return 0;
         }
 
+        /** Whether a sign stands here that would end a TERM; THE TERM is ended by no sign. */
         private boolean endsTerm(int depth) {
             if (depth > 0) {
                 return token == ',' || token == ')';
             }
             if (mode == WHOLE) {
-                return token == Lexer.END;
+                return false;
             }
             boolean left = mode == EQ_LEFT || mode == GIVEN_LEFT || mode == WANT_LEFT;
             return token == (left ? '=' : ';');

@@ -216,8 +216,8 @@ final class Model {
             List<T> args = new ArrayList<>();
             if (!is("(")) {
                 if (t.arity > 0) {
-                    String ender = depth > 0 ? null : "lgw".indexOf(where) >= 0 ? "=" : where == 't' ? "" : ";";
-                    boolean ends = depth > 0 ? is(",") || is(")") : is(ender);
+                    String ender = "lgw".indexOf(where) >= 0 ? "=" : ";";
+                    boolean ends = depth > 0 ? is(",") || is(")") : where != 't' && is(ender);
                     throw fault(ends ? 5 : 2);
                 }
                 return new T(1, t.name, args);
@@ -1203,6 +1203,10 @@ final class Model {
 
     int outLength() {
         return out == null ? 0 : out.length();
+    }
+
+    int tapeLength() {
+        return tape.length();
     }
 
     int eqCount() {

@@ -158,6 +158,9 @@ public final class ModelTest {
         String t = chance(10) ? text.replace(",", " , ").replace("(", "\n( ") : text;
         log.append("\n  ").append(t);
         int n = Math.min(t.length(), 900);
+        if (m.tapeLength() > 0 && chance(95)) {
+            same("term(0)", x.term(0), m.term(0));
+        }
         for (int i = 0; i < n; i += 20) {
             int[] w = new int[5];
             for (int k = 0; k < 20; k++) {
@@ -372,6 +375,48 @@ public final class ModelTest {
         return b.toString();
     }
 
+    private static final int[] WILD = {Integer.MIN_VALUE, Integer.MIN_VALUE + 1, -900, -2, -1, 0, 1, 2, 3, 7, 15, 16,
+        59, 60, 61, 899, 900, 901, Integer.MAX_VALUE - 1, Integer.MAX_VALUE};
+
+    private int wild() {
+        return chance(60) ? random.nextInt(6) : WILD[random.nextInt(WILD.length)];
+    }
+
+    /** Any call with any numbers, bytes of any kind on the tape. */
+    private void wildCall() {
+        int a = wild();
+        int b = wild();
+        int c = wild();
+        log.append("\n  wild ").append(a).append(" ").append(b).append(" ").append(c);
+        switch (random.nextInt(25)) {
+            case 0: same("feed", x.feed(a, b, c, a, b), m.feed(a, b, c, a, b)); break;
+            case 1: same("load", x.load(a), m.load(a)); break;
+            case 2: same("fault", x.fault(a), m.fault(a)); break;
+            case 3: same("many", x.many(a), m.many(a)); break;
+            case 4: same("family", x.family(a, b), m.family(a, b)); break;
+            case 5: same("equation", x.equation(a, b), m.equation(a, b)); break;
+            case 6: same("meets", x.meets(a, b), m.meets(a, b)); break;
+            case 7: same("compatible", x.compatible(a, b), m.compatible(a, b)); break;
+            case 8: same("ends", x.ends(a, b, c), m.ends(a, b, c)); break;
+            case 9: same("parts", x.parts(a, b), m.parts(a, b)); break;
+            case 10: same("bad", x.bad(a, b), m.bad(a, b)); break;
+            case 11: same("term", x.term(a), m.term(a)); break;
+            case 12: same("now", x.now(a), m.now(a)); break;
+            case 13: same("node", x.node(a, b), m.node(a, b)); break;
+            case 14: same("why", x.why(a, b), m.why(a, b)); break;
+            case 15: same("still", x.still(a, b), m.still(a, b)); break;
+            case 16: same("step", x.step(a), m.step(a)); break;
+            case 17: same("reduce", x.reduce(a), m.reduce(a)); break;
+            case 18: same("would", x.would(a, b), m.would(a, b)); break;
+            case 19: same("period", x.period(), m.period()); break;
+            case 20: same("print", x.print(), m.print()); break;
+            case 21: same("out", x.out(a), m.out(a)); break;
+            case 22: same("want", x.want(a), m.want(a)); break;
+            case 23: same("wanted", x.wanted(a), m.wanted(a)); break;
+            default: same("unknown", x.unknown(a), m.unknown(a)); break;
+        }
+    }
+
     private void run() {
         int rounds = 1 + random.nextInt(3);
         for (int r = 0; r < rounds; r++) {
@@ -384,6 +429,9 @@ public final class ModelTest {
                     term();
                 } else {
                     want();
+                }
+                for (int k = random.nextInt(30); k > 0; k--) {
+                    wildCall();
                 }
             }
         }

@@ -161,6 +161,9 @@ public final class PromiseTest {
         ok("many(0)", x.many(0), 0);
         ok("only n bytes", x.load(feed("con A 0;con B 0;") - 8), 0);
         ok("many(0)", x.many(0), 1);
+        faulty("n amid a row of digits", x.load(feed("con A 12;") - 2), 2, 7);
+        ok("n amid a row of letters", x.load(feed("con A 0;open F 1;eq F(x)=x;open G 1 backx") - 1 - 32), 0);
+        faulty("n amid a row of letters", x.load(feed("con Abcdefg 0;") - 4), 2, 10);
         ok("no blanks", load("con A0;con Abcdef3;open F1back;eq F(abcdef)=F(F(abcdef));"), 1);
         ok("blanks", load(" con\nA 0 ; \n open F 1 ; eq F ( x ) = x ; \n"), 1);
     }
@@ -280,9 +283,9 @@ public final class PromiseTest {
         badTerm("P(A", 2, 3);
         badTerm("P;", 2, 1);
         badTerm("F(12)", 1, 2);
-        // The end is what would end THE TERM there: too few ARGUMENTS.
-        badTerm("P", 5, 1);
-        badTerm("P ", 5, 2);
+        // The end is no sign that ends a TERM.
+        badTerm("P", 2, 1);
+        badTerm("P ", 2, 2);
         String many = "P(a,P(b,P(c,P(d,P(e,P(f,P(g,P(h,P(i,P(j,P(k,";
         ok("twelve VARIABLES", term(many + "l" + times(")", 11)), 23);
         badTerm(many + "P(l,m" + times(")", 12), 6, many.length() + 4);
@@ -364,17 +367,18 @@ public final class PromiseTest {
     private static void equations() {
         begin(8);
         load("con A 0;con S 1;con P 2;open F 1;open G 2;eq F(A)=A;eq G(x,y)=P(F(x),y);eq F(S(x))=F(F(x));"
-            + "eq G(x,A)=F(P(x,A));eq G(x,S(A))=F(P(x,x));eq G(S(S(x)),y)=P(F(P(x,x)),F(A));eq G(A,x)=G(F(x),x);");
+            + "eq G(x,A)=F(P(x,A));eq G(x,S(A))=F(P(x,x));eq G(S(S(x)),y)=P(F(P(x,x)),F(A));eq G(A,x)=G(F(x),x);"
+            + "eq G(S(x),A)=P(F(x),x);");
         int[][] due = {{0, 0, 0, 2, 1, 0}, {1, 0, 2, 3, 4, 0}, {0, 1, 1, 3, 3, 1}, {1, 1, 1, 3, 4, 2},
-            {1, 2, 1, 4, 4, 2}, {1, 3, 2, 5, 7, 3}, {1, 4, 1, 3, 4, 1}};
-        for (int e = 0; e < 7; e++) {
+            {1, 2, 1, 4, 4, 2}, {1, 3, 2, 5, 7, 3}, {1, 4, 1, 3, 4, 1}, {1, 5, 1, 4, 4, 0}};
+        for (int e = 0; e < 8; e++) {
             for (int what = 0; what < 6; what++) {
                 ok("equation(" + e + ", " + what + ")", x.equation(e, what), due[e][what]);
             }
         }
         no("equation(0, 6)", x.equation(0, 6), 1);
         no("equation(0, -1)", x.equation(0, -1), 1);
-        no("equation(7, 0)", x.equation(7, 0), 2);
+        no("equation(8, 0)", x.equation(8, 0), 2);
         no("equation(-1, 0)", x.equation(-1, 0), 2);
     }
 
