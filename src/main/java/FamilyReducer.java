@@ -1425,9 +1425,10 @@ public final class FamilyReducer {
 
         void judgeAll(Told told) {
             for (int e = 0; e < told.eqs; e++) {
-                for (int o = 0; o < told.eqs; o++) {
-                    boolean both = told.owner[e] == told.owner[o];
-                    told.agreeing[e * EQ_ROOM + o] = both && rightsAgree(told, e, o);
+                for (int o = 0; o <= e; o++) {
+                    boolean agree = told.owner[e] == told.owner[o] && rightsAgree(told, o, e);
+                    told.agreeing[e * EQ_ROOM + o] = agree;
+                    told.agreeing[o * EQ_ROOM + e] = agree;
                 }
             }
             for (int f = 0; f < told.fams; f++) {
