@@ -1,103 +1,5 @@
 /** For each promise of the document calls whose answers are known: ordinary ones, edges, wrong ones. */
-public final class PromiseTest {
-    private static int wrong = 0;
-    private static int promise = 0;
-    private static FamilyReducer x = new FamilyReducer();
-
-    private static void is(String call, int got, int due) {
-        if (got != due) {
-            wrong++;
-            System.out.println("promise " + promise + ": " + call + " answered " + got + ", due is " + due);
-        }
-    }
-
-    /** A call that gives NONE, and its STATUS. */
-    private static void no(String call, int got, int status) {
-        is(call, got, FamilyReducer.NONE);
-        is("status behind " + call, x.status(), status);
-    }
-
-    /** A call with STATUS 0. */
-    private static void ok(String call, int got, int due) {
-        is(call, got, due);
-        is("status behind " + call, x.status(), 0);
-    }
-
-    private static void begin(int number) {
-        promise = number;
-        x = new FamilyReducer();
-    }
-
-    private static int feed(String text) {
-        for (int i = 0; i < text.length(); i += 20) {
-            int[] w = new int[5];
-            for (int k = 0; k < 20; k++) {
-                w[k / 4] = w[k / 4] << 8 | (i + k < text.length() ? text.charAt(i + k) & 255 : 32);
-            }
-            x.feed(w[0], w[1], w[2], w[3], w[4]);
-        }
-        return text.length();
-    }
-
-    private static int load(String text) {
-        return x.load(feed(text));
-    }
-
-    private static int term(String text) {
-        return x.term(feed(text));
-    }
-
-    private static int want(String text) {
-        return x.want(feed(text));
-    }
-
-    private static void out(String call, int n, String due) {
-        StringBuilder b = new StringBuilder();
-        for (int i = 0; i < n; i++) {
-            b.append((char) x.out(i));
-        }
-        if (!b.toString().equals(due)) {
-            wrong++;
-            System.out.println("promise " + promise + ": " + call + " told " + b + ", due is " + due);
-        }
-        no("out(" + n + ") behind " + call, x.out(Math.max(n, 0)), 5);
-    }
-
-    private static void printed(String due) {
-        out("print()", x.print(), due);
-    }
-
-    private static void faulty(String call, int got, int kind, int place) {
-        no(call, got, 9);
-        is("fault(0) of " + call, x.fault(0), kind);
-        is("fault(1) of " + call, x.fault(1), place);
-    }
-
-    private static void badLoad(String text, int kind, int place) {
-        faulty("load " + text, load(text), kind, place);
-    }
-
-    private static void badTerm(String text, int kind, int place) {
-        faulty("term " + text, term(text), kind, place);
-    }
-
-    private static void badWant(String text, int kind, int place) {
-        faulty("want " + text, want(text), kind, place);
-    }
-
-    private static String times(String s, int n) {
-        StringBuilder b = new StringBuilder();
-        for (int i = 0; i < n; i++) {
-            b.append(s);
-        }
-        return b.toString();
-    }
-
-    /** S(S(..A..)) with so many S. */
-    private static String tower(int n) {
-        return times("S(", n) + "A" + times(")", n);
-    }
-
+public final class PromiseTest extends Calls {
     private static void newObject() {
         begin(1);
         is("status()", x.status(), 0);
@@ -462,16 +364,6 @@ public final class PromiseTest {
         no("parts(0, -1)", x.parts(0, -1), 1);
     }
 
-    private static void badIs(int f, int kind, int e, int other) {
-        if (kind == 0) {
-            no("bad(" + f + ", 0)", x.bad(f, 0), 5);
-            return;
-        }
-        ok("bad(" + f + ", 0)", x.bad(f, 0), kind);
-        ok("bad(" + f + ", 1)", x.bad(f, 1), e);
-        ok("bad(" + f + ", 2)", x.bad(f, 2), other);
-    }
-
     private static void badOnes() {
         begin(13);
         load("con A 0;con S 1;con P 2;open F 1;open G 1;open H 2;open K 1 back;open L 1;"
@@ -742,13 +634,6 @@ public final class PromiseTest {
         ok("OUT stays", x.out(1), 'b');
     }
 
-    private static void wantedIs(int left, int kind, int of, int rounds, int unknowns, int bits) {
-        int[] due = {left, kind, of, rounds, unknowns, bits};
-        for (int what = 0; what < 6; what++) {
-            ok("wanted(" + what + ")", x.wanted(what), due[what]);
-        }
-    }
-
     private static final String SOLVE = "con A 0;con B 0;con S 1;con P 2;open F 1 back;open G 1;open K 1;open N 1 back;"
         + "eq F(A)=A;eq F(S(x))=S(x);eq G(S(x))=x;eq K(x)=S(K(x));eq N(x)=N(x);";
 
@@ -901,9 +786,6 @@ public final class PromiseTest {
         longLists();
         wanteds();
         unknowns();
-        System.out.println(wrong == 0 ? "all answers are as due" : wrong + " answers are not as due");
-        if (wrong != 0) {
-            System.exit(1);
-        }
+        tellAll();
     }
 }
