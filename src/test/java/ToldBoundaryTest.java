@@ -111,6 +111,41 @@ public final class ToldBoundaryTest extends Calls {
         }
     }
 
+    private static void familyIs(int f, int... due) {
+        for (int what = 0; what < 8; what++) {
+            ok("family(" + f + ", " + what + ")", x.family(f, what), due[what]);
+        }
+    }
+
+    private static void promise07OfTheLatestLoad() {
+        begin(7, "of what the latest load() told, however much was told ahead of it");
+        String full = SOME + "closed F 1 back;closed G 1 back;open H 1;open I 1;open J 1;"
+            + times("eq F(A)=G(A);", 8) + times("eq F(x)=J(x);", 8);
+        for (int i = 0; i < 3; i++) {
+            loads(full, 16);
+            familyIs(0, 1, 1, 1, 16, 18, 18, 0, 0);
+            ok("parts(0, 1)", x.parts(0, 1), 8);
+            badIs(0, 2, 0, -1);
+            familyIs(4, 1, 0, 0, 0, 0, 0, 1, 0);
+        }
+        for (int i = 0; i < 3; i++) {
+            loads("con A 0;open F 2;open G 1 back;eq F(A,x)=A;", 1);
+            familyIs(0, 2, 0, 0, 1, 0, 0, 1, 0);
+            familyIs(1, 1, 0, 1, 0, 0, 0, 1, 1);
+            no("family(2, 0)", x.family(2, 0), 2);
+            no("equation(1, 0)", x.equation(1, 0), 2);
+            badIs(0, 3, 0, -1);
+            badIs(1, 0, 0, 0);
+            no("parts(0, 0)", x.parts(0, 0), 5);
+            termFault(3, "^B");
+            terms("F(A,G(A))", 4);
+            ok("now(3)", x.now(3), 1);
+        }
+        loads("", 0);
+        termFault(3, "^A");
+        no("family(0, 0)", x.family(0, 0), 2);
+    }
+
     private static void promise07WhichFamily() {
         begin(7, "(1; 2)");
         loads("open F 1;closed G 2 back;open H 3;open I 1;closed J 1;", 0);
@@ -244,6 +279,8 @@ public final class ToldBoundaryTest extends Calls {
         bounded("F(T(x,x,y))=H(x,y,y)", 3);
         bounded("F(S(S(x)))=P(F(x),F(x))", 0);
         bounded("F(S(S(x)))=G(x,x)", 3);
+        bounded("F(S(S(x)))=P(x,F(x))", 0);
+        bounded("F(S(S(x)))=P(F(x),x)", 0);
         begin(8, "the least of these that fails for one");
         bounded("F(S(S(x)))=P(G(x,x),F(S(S(x))))", 2);
         bounded("F(S(S(x)))=P(F(S(S(x))),G(x,x))", 2);

@@ -194,6 +194,14 @@ public final class WantBoundaryTest extends Calls {
         solved("given G(H(A))=B;want G(H(A))=B;", 1, 0, -1, 1);
         solved("given G(H(x))=B;want G(H(x))=B;", 0, 0, -1, 2);
         solved("given G(H(x))=B;given H(x)=A;want G(H(x))=B;", 1, 0, -1, 1);
+        begin(25, "GIVEN of this text alone");
+        loads(SOME, 0);
+        String five = times("given F(x)=A;", 5);
+        solved(five + "given G(x)=A;want G(x)=A;", 0, 0, -1, 2);
+        solved(five + "want G(x)=A;", 1, 0, -1, 1);
+        solved("want F(x)=A;", 1, 0, -1, 1);
+        terms("F(x)", 2);
+        ok("THE TERM has none", x.reduce(0), 0);
         begin(25, "UNKNOWNS count as VARIABLES where it is asked what is APART");
         loads(SOME + "closed H 1;eq H(A)=A;eq H(x)=B;", 2);
         solved("want H(?a)=B;", 1, 0, -1, 1);
