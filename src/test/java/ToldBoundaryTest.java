@@ -141,6 +141,14 @@ public final class ToldBoundaryTest extends Calls {
             terms("F(A,G(A))", 4);
             ok("now(3)", x.now(3), 1);
         }
+        for (int nodes = 15; nodes >= 0; nodes--) {
+            for (int i = 0; i < 2; i++) {
+                String right = nodes == 0 ? "x" : tower(nodes - 1, "G(x)");
+                loads("con S 1;open F 1;open G 1;eq F(S(S(x)))=" + right + ";", 1);
+                ok("family(0, 4)", x.family(0, 4), nodes == 0 ? 0 : 2);
+                ok("equation(0, 5)", x.equation(0, 5), 0);
+            }
+        }
         loads("", 0);
         termFault(3, "^A");
         no("family(0, 0)", x.family(0, 0), 2);
