@@ -209,6 +209,34 @@ public final class TermBoundaryTest extends Calls {
         whyIs(three, "F(A)", 3, 3, 2);
     }
 
+    private static void promise17UnlikeVariables() {
+        begin(17, "VARIABLES of THE TERM are none of the EQUATIONS', whatever they are called");
+        // As the same VARIABLE it would be S(..) and A at once: APART.
+        for (String word : new String[] {"a", "b", "c", "d", "e", "f", "x", "y"}) {
+            whyIs("closed G 2;eq G(S(x),y)=A;eq G(x,y)=B;", "G(" + word + ",A)", 1, 3, 0);
+            whyIs("closed G 2;eq G(y,S(x))=A;eq G(x,y)=B;", "G(A," + word + ")", 1, 3, 0);
+            whyIs("closed G 2;eq G(P(a,b),P(S(c),P(d,P(e,f))))=A;eq G(x,y)=B;",
+                "G(P(A,P(A,A)),P(" + word + ",P(A,P(A,A))))", 1, 3, 0);
+        }
+    }
+
+    private static void promise19NoGiven() {
+        begin(19, "a STEP is by an EQUATION alone: GIVEN are for WANTED");
+        loads(SOME + "open F 1;open G 1;eq G(x)=F(x);", 1);
+        badWant("given F(x)=A;wont", 2, 13);
+        terms("F(x)", 2);
+        no("step(0)", x.step(0), 5);
+        ok("now(3)", x.now(3), 0);
+        wants("given F(x)=A;given G(x)=B;want F(x)=A;want G(x)=B;", 0);
+        printed("F(x)");
+        no("step(0)", x.step(0), 5);
+        ok("reduce(1)", x.reduce(1), 0);
+        terms("G(x)", 2);
+        ok("would(0, 0)", x.would(0, 0), 1);
+        ok("reduce(0)", x.reduce(0), 1);
+        printed("F(x)");
+    }
+
     private static void promise19Ways() {
         begin(19, "(1; 3; 5: none FIRES; 6)");
         for (int way : outside(1)) {

@@ -36,6 +36,9 @@ public final class ToldBoundaryTest extends Calls {
         begin(1, "No CONSTRUCTORS, FAMILIES, EQUATIONS");
         termFault(3, "^A");
         terms("x", 1);
+        ok("now(3)", x.now(3), 0);
+        ok("node(0, 3)", x.node(0, 3), -1);
+        no("step(0)", x.step(0), 5);
         ok("reduce(0)", x.reduce(0), 0);
         no("why(0, 0)", x.why(0, 0), 2);
         printed("x");
@@ -389,6 +392,15 @@ public final class ToldBoundaryTest extends Calls {
         agree("F(S(x))=F(S(x))", "F(y)=F(y)", 1);
         begin(10, "as they are written, nothing reduced");
         agree("F(x)=F(A)", "F(A)=A", 0);
+        agree("F(x)=S(F(A))", "F(y)=S(F(B))", 0);
+        agree("F(x)=S(F(A))", "F(y)=S(F(A))", 1);
+        agree("F(x)=S(F(x))", "F(A)=S(F(A))", 1);
+        agree("F(x)=P(F(x),F(x))", "F(S(y))=P(F(S(y)),F(y))", 0);
+        agree("F(x)=S(F(A))", "F(y)=S(F(F(A)))", 0);
+        begin(10, "an EQUATION and itself");
+        loads("con A 0;open F 1;eq F(A)=A;eq F(x)=x;", 2);
+        ok("compatible(0, 0)", x.compatible(0, 0), 1);
+        ok("compatible(1, 1)", x.compatible(1, 1), 1);
         begin(10, "(2; 5: of two FAMILIES)");
         loads("open F 1;open G 1;eq F(x)=x;eq G(x)=x;", 2);
         no("compatible(0, 1)", x.compatible(0, 1), 5);
@@ -417,6 +429,8 @@ public final class ToldBoundaryTest extends Calls {
         loads(SOME + "open H 3;eq H(P(a,b),P(c,d),P(e,f))=P(P(f,e),P(P(d,c),P(b,a)));", 1);
         out("ends(0, 0, 0)", x.ends(0, 0, 0), "P(P(f,e),P(P(d,c),P(b,a)))");
         out("ends(0, 0, 1)", x.ends(0, 0, 1), "P(P(f,e),P(P(d,c),P(b,a)))");
+        ends("F(x)=S(F(x))", "F(S(y))=P(F(F(y)),S(F(y)))", "S(F(S(a)))", "P(F(F(a)),S(F(a)))");
+        ends("G(x,y)=P(F(y),F(x))", "G(A,y)=T(G(y,y),F(A),y)", "P(F(a),F(A))", "T(G(a,a),F(A),a)");
         loads("con Abcdef 0;open Ffffff 1;eq Ffffff(x)=Ffffff(Abcdef);", 1);
         out("ends(0, 0, 1)", x.ends(0, 0, 1), "Ffffff(Abcdef)");
     }

@@ -182,6 +182,38 @@ public final class WantBoundaryTest extends Calls {
         solved("given R(A,A)=R(S(A),A);want R(A,A)=B;", 1, 3, 0, 1);
     }
 
+    private static void promise25FromWithin() {
+        begin(25, "then REDUCED (way 0)");
+        // From without K(L(x)) is A; from within L comes back, so the side doesn't END.
+        loads("con A 0;con B 0;open K 1;open L 1;open C 1;eq K(x)=A;eq L(x)=L(x);"
+            + "eq C(A)=B;", 3);
+        solved("want K(L(x))=A;", 1, 3, 0, 1);
+        solved("want A=K(L(x));", 1, 3, 0, 1);
+        solved("want K(C(x))=A;", 0, 0, -1, 2);
+        solved("want A=K(C(x));", 0, 0, -1, 2);
+        begin(25, "of all places that which is first, for a GIVEN, too");
+        loads(SOME, 0);
+        for (String sides : new String[] {"G(F(x))=B", "B=G(F(x))", "G(F(x))=G(A)", "G(A)=G(F(x))"}) {
+            boolean within = sides.contains("G(A)");
+            solved("given G(F(x))=B;given F(x)=A;want " + sides + ";", within ? 0 : 1, 0, -1, within ? 2 : 1);
+        }
+    }
+
+    private static void promise25ChainOfSix() {
+        begin(25, "both sides with what UNKNOWNS are for these");
+        loads(SOME, 0);
+        String chain = "want ?a=S(?b);want ?b=S(?c);want ?c=S(?d);want ?d=S(?e);want ?e=S(?f);want ?f=S(A);";
+        solved(chain + "want ?a=S(S(S(S(S(S(A))))));want S(S(S(S(S(S(A))))))=?a;", 0, 0, -1, 2);
+        for (int k = 0; k < 6; k++) {
+            out("unknown(" + k + ")", x.unknown(k), tower(6 - k));
+        }
+        solved(chain + "want G(?a)=G(S(S(S(S(S(S(A)))))));want G(?a)=G(S(S(S(S(S(A))))));", 1, 0, -1, 2);
+        solved(chain.replace("S(A)", "x") + "want G(P(?a,?b))=G(P(S(S(S(S(S(x))))),S(S(S(S(x))))));", 0, 0, -1, 2);
+        solved("want ?f=S(A);want ?e=S(?f);want ?d=S(?e);want ?c=S(?d);want ?b=S(?c);want ?a=S(?b);"
+            + "want ?a=S(S(S(S(S(S(A))))));", 0, 0, -1, 2);
+        out("unknown(5)", x.unknown(5), tower(6));
+    }
+
     private static void promise25ByGiven() {
         begin(25, "where its left side is just what stands there, as it is written; a GIVEN ahead of any EQUATION");
         loads(SOME + "closed H 1;eq H(A)=A;eq H(x)=B;", 2);
